@@ -17,9 +17,8 @@ public final class ParcelDepot {
     private static final int MOST_INPUT = 60;
     // The number, "@", the place and twelve parcels of eight characters each need no more.
     private static final int MOST_OUTPUT = 100;
-    // "out 0" and its semicolon take six characters, so ten commands fit into the input;
-    // the row more is for what stands behind the last semicolon.
-    private static final int MOST_COMMANDS = 11;
+    // The shortest command, "out 0", and its semicolon take six characters.
+    private static final int MOST_COMMANDS = 10;
 
     private static final int NONE = -1;
     // Besides the numbers of the sacks, these two tell where a parcel is.
@@ -1136,13 +1135,6 @@ public final class ParcelDepot {
         int second = 0;
         int third = 0;
 
-        void clear(Form newForm) {
-            form = newForm;
-            first = 0;
-            second = 0;
-            third = 0;
-        }
-
         void setNumber(int index, int number) {
             if (index == 0) {
                 first = number;
@@ -1207,6 +1199,7 @@ public final class ParcelDepot {
                 }
                 from = at + 1;
             }
+            // The greatest number of commands with a semicolon behind each fills the input: the text ends too early.
             return from;
         }
 
@@ -1229,7 +1222,7 @@ public final class ParcelDepot {
             if (form == null || command == null) {
                 return false;
             }
-            command.clear(form);
+            command.form = form;
             int numbers = 0;
             for (int index = 0; index < form.pattern.length(); index++) {
                 char due = form.pattern.charAt(index);

@@ -16,8 +16,7 @@ final class FaceTest {
     static void run(Path document) throws Exception {
         Check.promise(0);
         Check.equal("the face", due(document), shown());
-        Check.holds("the class public and final",
-                Modifier.isPublic(ParcelDepot.class.getModifiers()) && Modifier.isFinal(ParcelDepot.class.getModifiers()));
+        Check.equal("the class", "public final", Modifier.toString(ParcelDepot.class.getModifiers()));
         List<String> publicNames = new ArrayList<>();
         for (Method method : ParcelDepot.class.getMethods()) {
             publicNames.add(method.getName());

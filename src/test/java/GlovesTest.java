@@ -200,6 +200,14 @@ final class GlovesTest {
         countHandleable(1, depot);
         depot.put(2, 1);
         countHandleable(0, depot);
+        ParcelDepot full = Depots.addHazards(Depots.withGloves(1, 1, 1, 1, 1, 1, 1, 2), 1, 2, 2, 2, 2, 2, 3);
+        countHandleable(4, full);
+        full.undo();
+        full.undo();
+        for (int use = 0; use < 3; use++) {
+            full.put(1 + use, 0);
+        }
+        countHandleable(1, full);
     }
 
     private static void countHandleable(int due, ParcelDepot depot) {

@@ -38,7 +38,7 @@ final class OutputTest {
         }
         Check.equal("the output after refusals", '5', depot.outputChar(3));
         Check.equal("undoCount() after writeSack", undoable, depot.undoCount());
-        depot.put(2 - 2, 0);
+        depot.put(0, 0);
         Check.equal("one digit", "s0@0 9>1", Depots.written(depot, 0));
     }
 

@@ -203,6 +203,17 @@ final class ParcelsTest {
         depot.comeBack(1);
         Check.equal("heaviest(0) with that parcel back", 1, depot.heaviest(0));
         Check.refused("heaviest(0) without parcels", ELEMENT, () -> new ParcelDepot().heaviest(0));
+        ParcelDepot full = new ParcelDepot();
+        for (int parcel = 0; parcel < 12; parcel++) {
+            full.acceptParcel(parcel + 1, 0, 5);
+        }
+        for (int rank = 0; rank < 12; rank++) {
+            Check.equal("heaviest(" + rank + ") of twelve", 11 - rank, full.heaviest(rank));
+        }
+        Check.refused("heaviest(12) of twelve", ELEMENT, () -> full.heaviest(12));
+        full.undo();
+        Check.equal("heaviest(0) after undo", 10, full.heaviest(0));
+        Check.refused("heaviest(11) after undo", ELEMENT, () -> full.heaviest(11));
     }
 
     private static void meansAreFound() {

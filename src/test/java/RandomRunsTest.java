@@ -1,5 +1,6 @@
 import java.lang.reflect.InvocationTargetException;
 import java.lang.reflect.Method;
+import java.lang.reflect.Modifier;
 import java.util.ArrayList;
 import java.util.Arrays;
 import java.util.Comparator;
@@ -10,8 +11,11 @@ import java.util.Random;
 final class RandomRunsTest {
     private static final int RUNS = 400;
     private static final int CALLS = 512;
-    private static final String[] CHANGES = {"buildRoad", "acceptParcel", "buyGlove", "setCapacity", "put", "put", "put",
-        "takeOut", "carry", "carry", "carry", "comeBack", "writeSack", "undo", "save", "restore"};
+    private static final String[] CHANGES = {"buildRoad", "acceptParcel", "acceptParcel", "buyGlove", "setCapacity",
+        "put", "put", "put", "put", "takeOut", "carry", "carry", "carry", "comeBack", "comeBack"};
+    // These throw away what a run has built, so they are made seldom.
+    private static final String[] STEPS_BACK = {"undo", "undo", "undo", "undo", "save", "restore"};
+    private static final List<String> NO_QUERIES = List.of("undo", "save", "restore", "feed", "runCommands");
     private static final String[] KEYWORDS = {"road ", "parcel ", "glove ", "put ", "out ", "carry ", "back "};
 
     private final Random random;
@@ -26,7 +30,7 @@ final class RandomRunsTest {
         this.run = run;
         random = new Random(run);
         for (Method method : ParcelDepot.class.getDeclaredMethods()) {
-            if (java.lang.reflect.Modifier.isPublic(method.getModifiers())) {
+            if (Modifier.isPublic(method.getModifiers())) {
                 methods.add(method);
             }
         }
@@ -43,16 +47,25 @@ final class RandomRunsTest {
 
     private void compare() throws Exception {
         while (calls < CALLS && agrees) {
-            int kind = random.nextInt(20);
-            if (kind == 0) {
+            int kind = random.nextInt(200);
+            if (kind < 3) {
                 feedText();
-            } else if (kind < 9) {
-                call(named(CHANGES[random.nextInt(random.nextInt(8) == 0 ? CHANGES.length : 13)]));
+            } else if (kind < 10) {
+                call(named(STEPS_BACK[random.nextInt(STEPS_BACK.length)]));
+            } else if (kind < 110) {
+                call(named(CHANGES[random.nextInt(CHANGES.length)]));
             } else {
-                call(methods.get(random.nextInt(methods.size())));
+                callQuery();
             }
         }
         Check.holds("the whole of run " + run, agrees);
+    }
+
+    private void callQuery() throws Exception {
+        Method method = methods.get(random.nextInt(methods.size()));
+        if (!NO_QUERIES.contains(method.getName())) {
+            call(method);
+        }
     }
 
     private Method named(String name) {
@@ -103,6 +116,16 @@ final class RandomRunsTest {
                 return 10 + random.nextInt(51);
             case "outputChar0":
                 return random.nextInt(14);
+            case "comeBack0":
+                return parcelInState('d');
+            case "takeOut0":
+                return parcelInState('s');
+            case "put0":
+                return parcelInState('w');
+            case "grade0":
+            case "usesLeft0":
+                return random.nextInt(model.gloveCount() + 1);
+            case "acceptParcel2":
             case "put1":
             case "carry0":
             case "setCapacity0":
@@ -114,8 +137,20 @@ final class RandomRunsTest {
                 // Few places, so that parcels are delivered often.
                 return random.nextInt(random.nextInt(4) == 0 ? 6 : 4);
             default:
-                return random.nextInt(random.nextInt(3) == 0 ? 13 : 5);
+                return random.nextInt(1 + Math.max(random.nextInt(6), model.parcelCount()));
         }
+    }
+
+    /** Mostly a parcel in this state, if there is one. */
+    private int parcelInState(char state) {
+        int first = random.nextInt(12);
+        for (int step = 0; step < 12 && random.nextInt(30) != 0; step++) {
+            int parcel = (first + step) % 12;
+            if (parcel < model.parcelCount() && model.state(parcel) == state) {
+                return parcel;
+            }
+        }
+        return first;
     }
 
     private char character() {

@@ -13,6 +13,7 @@ final class UndoTest {
         undoLeavesTheRest();
         statesAreSaved();
         statesAreRestored();
+        replacedThingsAreRestored();
         restoreLeavesTheRest();
     }
 
@@ -174,6 +175,32 @@ final class UndoTest {
         depot.setCapacity(0, 44);
         depot.undo();
         Check.equal("the state after undo", before, Depots.seen(depot));
+    }
+
+    private static void replacedThingsAreRestored() {
+        Check.promise(53);
+        ParcelDepot depot = new ParcelDepot();
+        depot.acceptParcel(5, 1, 2);
+        depot.buyGlove(1);
+        depot.buildRoad(0, 1, 4);
+        String before = Depots.seen(depot);
+        depot.save();
+        depot.undo();
+        depot.undo();
+        depot.undo();
+        depot.acceptParcel(9, 3, 4);
+        depot.buyGlove(3);
+        depot.put(0, 1);
+        depot.buildRoad(0, 1, 7);
+        depot.carry(1, 1);
+        depot.restore();
+        Check.equal("the state after restore", before, Depots.seen(depot));
+        depot.setCapacity(1, 31);
+        depot.save();
+        depot.undo();
+        depot.setCapacity(1, 32);
+        depot.restore();
+        Check.equal("capacity(1) after restore", 31, depot.capacity(1));
     }
 
     private static void restoreLeavesTheRest() {
