@@ -224,6 +224,10 @@ final class ParcelsTest {
         Check.equal("meanHazard() of 0", 0.0, Depots.addHazards(new ParcelDepot(), 0, 0).meanHazard());
         Check.equal("meanHazard() of 3, 3", 3.0, Depots.addHazards(new ParcelDepot(), 3, 3).meanHazard());
         Check.equal("meanHazard() of 1, 2", 1.5, Depots.addHazards(new ParcelDepot(), 1, 2).meanHazard());
+        ParcelDepot full = Depots.addHazards(new ParcelDepot(), 0, 0, 0, 0, 0, 0, 0, 0, 1, 1, 1, 3);
+        Check.equal("meanHazard() of twelve", 0.5, full.meanHazard());
+        full.undo();
+        Check.equal("meanHazard() after undo", 3.0 / 11.0, full.meanHazard());
     }
 
     private static void sharesAreFound() {
