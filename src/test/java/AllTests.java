@@ -6,13 +6,23 @@ final class AllTests {
     }
 
     public static void main(String[] arguments) throws Exception {
-        RoadsTest.run();
-        ParcelsTest.run();
-        GlovesTest.run();
-        SacksTest.run();
-        CommandsTest.run();
-        OutputTest.run();
-        UndoTest.run();
+        Sentences.read(Path.of(arguments[0]));
+        Check.runs("TermsTest", TermsTest::run);
+        Check.runs("RulesTest", RulesTest::run);
+        Check.runs("RoadEdgesTest", RoadEdgesTest::run);
+        Check.runs("ParcelEdgesTest", ParcelEdgesTest::run);
+        Check.runs("GloveEdgesTest", GloveEdgesTest::run);
+        Check.runs("SackEdgesTest", SackEdgesTest::run);
+        Check.runs("CommandEdgesTest", CommandEdgesTest::run);
+        Check.runs("UndoEdgesTest", UndoEdgesTest::run);
+        Sentences.everySentenceIsChecked();
+        Check.runs("RoadsTest", RoadsTest::run);
+        Check.runs("ParcelsTest", ParcelsTest::run);
+        Check.runs("GlovesTest", GlovesTest::run);
+        Check.runs("SacksTest", SacksTest::run);
+        Check.runs("CommandsTest", CommandsTest::run);
+        Check.runs("OutputTest", OutputTest::run);
+        Check.runs("UndoTest", UndoTest::run);
         Check.everyPromiseIsChecked();
         FaceTest.run(Path.of(arguments[0]));
         RoomTest.run();

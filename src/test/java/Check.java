@@ -1,10 +1,14 @@
 import java.util.Objects;
+import java.util.function.Consumer;
+import java.util.function.IntConsumer;
+import java.util.function.Supplier;
 
 /** Counts the checks that hold and prints those that do not. */
 final class Check {
     private static final int PROMISES = 53;
     private static final int[] CHECKS = new int[PROMISES + 1];
     private static int promise = 0;
+    private static Sentences.Sentence sentence = null;
     private static int passed = 0;
     private static int failed = 0;
 
@@ -14,6 +18,13 @@ final class Check {
     /** The checks that follow belong to this promise; 0 stands for none in particular. */
     static void promise(int number) {
         promise = number;
+        sentence = null;
+    }
+
+    /** The checks that follow belong to the sentence that begins so; 0 stands for what comes before the promises. */
+    static void sentence(int number, String beginning) {
+        promise = number;
+        sentence = Sentences.beginning(number, beginning);
     }
 
     static void equal(String what, Object due, Object got) {
@@ -35,13 +46,66 @@ final class Check {
         equal(what + " throwing", due, got);
     }
 
+    /** A call that throws where none should ends these tests only, not those that follow. */
+    static void runs(String tests, Runnable call) {
+        try {
+            call.run();
+        } catch (RuntimeException e) {
+            e.printStackTrace(System.out);
+            holds("the run of " + tests + " to its end", false);
+        }
+    }
+
+    static void letsIn(String what, Runnable call) {
+        Class<?> got = null;
+        try {
+            call.run();
+        } catch (RuntimeException e) {
+            got = e.getClass();
+        }
+        equal(what + " throwing", null, got);
+    }
+
+    /** Both ends of the range are let in, and what lies beyond them is refused. */
+    static void range(String what, int first, int last, Class<? extends RuntimeException> due, IntConsumer call) {
+        letsIn(what + " " + first, () -> call.accept(first));
+        letsIn(what + " " + last, () -> call.accept(last));
+        beyond(what, first, last, due, call);
+    }
+
+    static void beyond(String what, int first, int last, Class<? extends RuntimeException> due, IntConsumer call) {
+        for (int value : new int[] {first - 1, last + 1, Integer.MIN_VALUE, Integer.MAX_VALUE}) {
+            refused(what + " " + value, due, () -> call.accept(value));
+        }
+    }
+
+    /** The call is refused, and what its depot tells afterwards is what a twin tells that had no such call. */
+    static void leavesAll(String what, Supplier<ParcelDepot> maker, Class<? extends RuntimeException> due,
+            Consumer<ParcelDepot> call) {
+        ParcelDepot depot = maker.get();
+        refused(what, due, () -> call.accept(depot));
+        equal("all that is told after " + what, Depots.told(maker.get()), Depots.told(depot));
+    }
+
+    /** The call is refused, and leaves what is undone and saved and what can be undone as it was. */
+    static void leavesState(String what, Supplier<ParcelDepot> maker, Class<? extends RuntimeException> due,
+            Consumer<ParcelDepot> call) {
+        ParcelDepot depot = maker.get();
+        refused(what, due, () -> call.accept(depot));
+        equal("the state after " + what, Depots.history(maker.get()), Depots.history(depot));
+    }
+
     private static void count(boolean condition, String message) {
         CHECKS[promise]++;
+        if (sentence != null) {
+            sentence.checks++;
+        }
         if (condition) {
             passed++;
         } else {
             failed++;
-            System.out.println("promise " + promise + ": " + message);
+            System.out.println("promise " + promise + ": " + (sentence == null ? "" : "'" + sentence.text + "' ")
+                    + message);
         }
     }
 

@@ -1,6 +1,17 @@
+import java.util.function.IntSupplier;
+
 /** Depots that tests begin with, and what many of them do with one. */
 final class Depots {
     private Depots() {
+    }
+
+    /** What a call answers: a number, or the name of what it throws. */
+    static String answer(IntSupplier call) {
+        try {
+            return String.valueOf(call.getAsInt());
+        } catch (RuntimeException e) {
+            return e.getClass().getSimpleName();
+        }
     }
 
     /** Feeds a text without looking at what feed answers. */
@@ -77,6 +88,52 @@ final class Depots {
             text.append(" sack ").append(depot.place(sack)).append(' ').append(depot.capacity(sack));
         }
         text.append(" sums ").append(depot.effortSoFar()).append(' ').append(depot.glovesUsedUp());
+        return text.toString();
+    }
+
+    /** The whole output, as it stands. */
+    static String output(ParcelDepot depot) {
+        StringBuilder text = new StringBuilder();
+        for (int index = 0; index < 1000; index++) {
+            try {
+                text.append(depot.outputChar(index));
+            } catch (IndexOutOfBoundsException e) {
+                return text.toString();
+            }
+        }
+        return text.toString();
+    }
+
+    /** What stands beside the state that is undone and saved, but for the input buffer. */
+    static String beside(ParcelDepot depot) {
+        return "output " + output(depot) + " error " + answer(depot::errorPosition) + " failed "
+                + answer(depot::failedCommand);
+    }
+
+    /** The state and what each undo makes of it. Asking for it changes the depot. */
+    private static String undone(ParcelDepot depot) {
+        StringBuilder text = new StringBuilder(seen(depot));
+        for (int left = depot.undoCount(); left > 0; left--) {
+            text.append('\n').append(answer(depot::undo)).append(": ").append(seen(depot));
+        }
+        return text.toString();
+    }
+
+    private static String saved(ParcelDepot depot) {
+        return "saved " + answer(depot::restore) + ' ' + seen(depot);
+    }
+
+    /** The state, the calls that can be undone, and what was saved. Asking for these changes the depot. */
+    static String history(ParcelDepot depot) {
+        return undone(depot) + '\n' + saved(depot);
+    }
+
+    /** All that a depot tells, also of its input buffer. Asking for it changes the depot. */
+    static String told(ParcelDepot depot) {
+        StringBuilder text = new StringBuilder(beside(depot));
+        text.append("\nundo ").append(depot.undoCount()).append('\n').append(undone(depot));
+        text.append("\ninput ").append(answer(depot::runCommands)).append(' ').append(beside(depot));
+        text.append('\n').append(seen(depot)).append('\n').append(saved(depot));
         return text.toString();
     }
 }
