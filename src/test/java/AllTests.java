@@ -1,6 +1,6 @@
 import java.nio.file.Path;
 
-/** Runs every test of the project. The argument is the path of the document. */
+/** Runs every test of the project. The arguments are the paths of the document, the class and README.md. */
 final class AllTests {
     private AllTests() {
     }
@@ -25,7 +25,10 @@ final class AllTests {
         Check.runs("UndoTest", UndoTest::run);
         Check.everyPromiseIsChecked();
         FaceTest.run(Path.of(arguments[0]));
+        LanguageTest.run(Path.of(arguments[1]));
         RoomTest.run();
+        ReadmeTest.run(Path.of(arguments[2]));
+        Check.runs("TextsTest", TextsTest::run);
         RandomRunsTest.run();
         if (Check.failures() != 0) {
             System.exit(1);
